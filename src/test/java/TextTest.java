@@ -97,6 +97,9 @@ public final class TextTest {
             .wrongAt("q1!0-1\"\0", 7).wrongAt("q1!0-1\"\t\"", 7).reads("q1!0-1\" ~\":>0;", 1);
         new Run("three words").wrongAt("q1!0-1\"a\"\"b\"\"c\"", 12);
         new Run("unclosed").wrongAt("q1!0-1\"ab", 9).wrongAt("q1!0-1\"abcdefghijkl", 19);
+        new Run("unclosed, with an earlier text's bytes behind it").wrongAt(" ".repeat(9) + "\"", 9).wrongAt("q1!0-1\"ab", 9)
+            .wrongAt("x22222222", 0).wrongAt("q1!0-", 5).wrongAt("q1!0-1", 6).wrongAt("q", 1);
+        new Run("unclosed at 400").wrongAt(" ".repeat(391) + "q1!0-1\"ab", 400);
         new Run("signs in words").reads("q1!0-1\";:,>+k1=\"\"q2!0-1\":>0;", 1).due("word(1, 0, 0)", ';');
     }
 

@@ -36,7 +36,10 @@ public final class ModelTest {
         }
     }
 
-    private String same(String method, long... given) {
+    private void same(String method, long... given) {
+        if (calls >= CALLS) {
+            return;
+        }
         StringBuilder call = new StringBuilder(method).append('(');
         for (int i = 0; i < given.length; i++) {
             call.append(i == 0 ? "" : ", ").append(given[i]);
@@ -44,7 +47,6 @@ public final class ModelTest {
         String want = model.answerOf(method, given);
         run.due(call.append(')').toString(), want);
         calls++;
-        return want;
     }
 
     private void text() {

@@ -7,11 +7,15 @@ final class Run {
     static final String ARGUMENT = "throws.IllegalArgumentException";
     static final String STATE = "throws.IllegalStateException";
 
+    /** What an object answers behind these is free, so that no test may ask it. */
+    private static final int CALLS_OF_ONE_OBJECT = 512;
+
     private static int calls = 0;
     private static int wrong = 0;
 
     private final String name;
     private final QuestionText object = new QuestionText();
+    private int own = 0;
 
     Run(String name) {
         this.name = name;
@@ -47,6 +51,12 @@ final class Run {
         return this;
     }
 
+    /** A text with a ^ before the byte at which it is wrong, or behind it when something is missing. */
+    Run wrong(String marked) {
+        int place = marked.indexOf('^');
+        return wrongAt(marked.substring(0, place) + marked.substring(place + 1), place);
+    }
+
     Run due(String call, int want) {
         note(call, answerOf(call), String.valueOf(want));
         return this;
@@ -68,6 +78,10 @@ final class Run {
 
     String answerOf(String call) {
         calls++;
+        own++;
+        if (own > CALLS_OF_ONE_OBJECT) {
+            note("call " + own, "more than may be asked", "at most " + CALLS_OF_ONE_OBJECT);
+        }
         try {
             return String.valueOf(called(call));
         } catch (RuntimeException e) {

@@ -182,6 +182,14 @@ public final class PromisesTest {
         new Run("a right text").reads(ROWS, 2).due("sign(32, 1)", 1);
         new Run("a wrong text").wrong("q1!0-1\"a\":>0;^x").due("sign(32, 1)", 1).due("read()", 0);
         withEightEditions("eight editions").tape("k2=1:1;").due("read()", Run.STATE).due("sign(32, 1)", 1);
+        String whole = "q12!1-20\"ab\"\"cd\":1-12>12+34,>0;k1=12:5(q12=15&p<34:2);";
+        for (int cut = 1; cut < whole.length(); cut++) {
+            if (!whole.substring(0, cut).endsWith(";")) {
+                // What was on the tape behind the cut has been used up: it does not help.
+                new Run("the rest of an earlier text").reads(whole, 1).tape(whole.substring(0, cut))
+                    .due("read()", Run.ARGUMENT).due("place()", cut);
+            }
+        }
     }
 
     private static void readAnswersHowManyQuestions() {

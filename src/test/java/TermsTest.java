@@ -128,6 +128,7 @@ public final class TermsTest {
             .due("first(4)", 4).due("answer(999)", Run.ARGUMENT).due("answer(10000)", Run.ARGUMENT).due("answer(9999)", 0);
         new Run("five").wrong("q1!1000^0-1").wrong("q1!0-9999^9\"a\"").wrong(HEAD + "1234^5-").wrong(HEAD + "0-1234^5>")
             .wrong(TERM + "q1=1234^5").wrong(TERM + "p<9999^0");
+        new Run("out of bounds with the fourth").wrong("q612^34!").wrong("q1!2000-100^05\"a\"").wrong(HEAD + ">0+123^45;");
     }
 
     private static void numbersHaveNo0InFront() {
@@ -328,6 +329,8 @@ public final class TermsTest {
         new Run("a question and a kind").reads(ROW + KIND + ";", 1);
         new Run("out of bounds behind one told").wrong(KIND + ";k1^0").wrong(ROW + "q10^0");
         new Run("in two texts").reads(ROW + KIND + ";", 1).reads(ROW + KIND + ";", 1);
+        new Run("the highest in two texts").reads(ROW.replace("q1", "q60") + "k9=1:1;", 1)
+            .reads(ROW.replace("q1", "q60") + "k9=1:2;", 1).due("first(9)", 0).due("priority()", 2);
         new Run("behind a text that was wrong").wrong(ROW + KIND + ";^x").reads(ROW + KIND + ";", 1);
     }
 
@@ -469,6 +472,9 @@ public final class TermsTest {
             .due("answer(1)", 1).due("priority()", 9).due("answer(4)", 1).due("priority()", 9)
             .due("first(1)", 1).due("answer(3)", 1).due("answer(5)", 1).due("priority()", 9)
             .due("answer(4)", 1).due("priority()", 2);
+        new Run("about question 60").reads("q60!0-9\"a\":>60;k1=60:9(q60=7:1)(q60<1:2);", 1).due("first(1)", 60)
+            .due("priority()", 9).due("answer(7)", 60).due("priority()", 1).due("answer(0)", 60).due("priority()", 2)
+            .due("first(1)", 60).due("priority()", 9);
         new Run("the bounds of <, = and >").reads("q1!0-9999\"a\":>1;k1=1:0(q1<1:1)(q1>9998:2)(q1=9998:3);", 1)
             .due("first(1)", 1).due("answer(0)", 1).due("priority()", 1).due("answer(1)", 1).due("priority()", 0)
             .due("answer(9999)", 1).due("priority()", 2).due("answer(9998)", 1).due("priority()", 3)

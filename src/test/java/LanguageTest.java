@@ -43,7 +43,8 @@ public final class LanguageTest {
         }
         sizes(QuestionText.class);
         check(QuestionText.class.getDeclaredClasses().length < 12, "too many classes");
-        source(Files.readAllLines(Path.of(System.getProperty("questiontext.source"))));
+        Path root = Path.of(System.getProperty("questiontext.root", "."));
+        source(Files.readAllLines(root.resolve("src/main/java/QuestionText.java")));
         System.out.println(wrong == 0 ? "the rules are kept" : wrong + " rules are broken");
         if (wrong != 0) {
             System.exit(1);
